@@ -44,6 +44,10 @@ public final class Promise06FaceTest {
         facesAre(check, x, c, f, h);
         int e = Trees.type(x, d, 0);
         facesAre(check, x, e, h, g, f);
+        x.implement(e, h);
+        facesAre(check, x, e, h, g, f);
+        x.implement(e, f);
+        facesAre(check, x, e, h, f, g);
     }
 
     /** Every class has as many faces as there can be: 58 for the last one. */

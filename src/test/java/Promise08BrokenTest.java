@@ -65,5 +65,11 @@ public final class Promise08BrokenTest {
         int a = Trees.method(x, low, 0, Trees.PUBLIC, Trees.PLAIN);
         check.due("between", x.broken(between), b);
         check.due("through a chain", x.broken(low), a);
+        int lower = Trees.type(x, low, 1);
+        int good = Trees.method(x, lower, 1, Trees.PUBLIC, Trees.PLAIN);
+        int next = Trees.type(x, low, 0);
+        int bad = Trees.method(x, next, 0, Trees.PUBLIC, Trees.PLAIN);
+        check.due("only its own, up to " + good, x.broken(lower), -1);
+        check.due("the next one's", x.broken(next), bad);
     }
 }

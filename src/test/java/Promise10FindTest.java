@@ -4,6 +4,7 @@ public final class Promise10FindTest {
         Check check = new Check();
         rows(check);
         faces(check);
+        methodZero(check);
         wrong(check);
         check.end();
     }
@@ -47,6 +48,18 @@ public final class Promise10FindTest {
         check.due("of a face: the one not abstract", x.find(both, 0), mg);
         int below = Trees.type(x, one, 0);
         check.due("of the parent's faces", x.find(below, 0), mg);
+    }
+
+    private static void methodZero(Check check) {
+        ChooseTree x = new ChooseTree();
+        int f = Trees.face(x);
+        int zero = Trees.method(x, f, 0, Trees.PUBLIC, Trees.PLAIN);
+        int g = Trees.face(x);
+        Trees.method(x, g, 0, Trees.PUBLIC, Trees.ABSTRACT);
+        int c = Trees.type(x, 0, 0, g, f);
+        check.due("method 0 as the one that is not abstract", x.find(c, 0), zero);
+        check.due("method 0 reached by a special call", x.special(c, c, 0), zero);
+        check.due("method 0 chosen", x.choose(c, 1), zero);
     }
 
     private static void wrong(Check check) {
