@@ -50,18 +50,14 @@ public final class Promise06FaceTest {
         facesAre(check, x, e, h, f, g);
     }
 
-    /** Every class has as many faces as there can be: 58 for the last one. */
+    /** As many faces as there can be: 58 for the last one. */
     private static void manyFaces(Check check) {
-        ChooseTree x = new ChooseTree();
-        for (int f = 1; f < 60; f++) {
-            int made = f == 1 ? Trees.face(x) : Trees.face(x, f - 1);
-            int[] want = new int[f];
-            want[0] = made;
-            for (int i = 1; i < f; i++) {
-                want[i] = f - i;
-            }
-            facesAre(check, x, want);
+        ChooseTree x = Trees.longestFaces();
+        int[] want = new int[58];
+        for (int i = 0; i < want.length; i++) {
+            want[i] = 58 - i;
         }
+        facesAre(check, x, 59, want);
     }
 
     private static void facesAre(Check check, ChooseTree x, int c, int... faces) {
@@ -70,10 +66,5 @@ public final class Promise06FaceTest {
         }
         check.due("face(" + c + ", " + faces.length + ")", x.face(c, faces.length), -1);
         check.due("face(" + c + ", -1)", x.face(c, -1), -1);
-    }
-
-    private static void facesAre(Check check, ChooseTree x, int[] classAndFaces) {
-        int[] faces = java.util.Arrays.copyOfRange(classAndFaces, 1, classAndFaces.length);
-        facesAre(check, x, classAndFaces[0], faces);
     }
 }
