@@ -430,7 +430,8 @@ public final class ChooseTree {
         }
 
         private void listFacesOf(int c, int from) {
-            for (int i = 0; i < faceAmount[from]; i++) {
+            int amount = faceAmount[from];
+            for (int i = 0; i < amount; i++) {
                 listFace(c, faceAt(from, i));
             }
         }

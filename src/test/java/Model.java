@@ -38,6 +38,14 @@ final class Model {
         return methods.size();
     }
 
+    boolean isFace(int c) {
+        return type(c) != null && type(c).face;
+    }
+
+    int ownerOf(int m) {
+        return methodAt(m) == null ? -1 : methodAt(m).type.number;
+    }
+
     private Type type(int c) {
         return c >= 0 && c < types.size() ? types.get(c) : null;
     }
